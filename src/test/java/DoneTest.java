@@ -122,6 +122,10 @@ public final class DoneTest {
         due("grid 3*2", 10, 21, 34, 17, 42, 20);
         due("grid 1*3", 2, 5, 2);
         due("net 3:2-0", 4, 0, 1);
+        CleanNets again = Check.made("all 7");
+        CHECK.due("no links left over", Check.read(again, "net 3"), 0);
+        CHECK.due("no links left over", again.node(0, 1), 0);
+        CHECK.due("no nodes left over", again.node(3, 1), CleanNets.BAD);
     }
 
     private static void due(String text, int... near) {
@@ -143,10 +147,25 @@ public final class DoneTest {
             {"grid", 4}, {"grid 0*2", 5}, {"grid 8*1", 5}, {"grid 2", 6}, {"grid 2 2", 7}, {"grid 2x2", 6},
             {"grid 2*", 7}, {"grid 2*0", 7}, {"grid 1*1", 7}, {"grid 1*8", 7}, {"grid 2*4", 7}, {"grid 4*2", 7},
             {"grid 7*2", 7}, {"grid 3*3", 7}, {"grid 2 * 4", 9}, {"grid 2*2*", 8}, {"grid 2*21", 8}, {"nett 3", 0},
-            {"allpath 3", 0}, {"path-3", 4}, {"net 3:0--1", 8}, {"net 3::", 6}};
+            {"allpath 3", 0}, {"path-3", 4}, {"net 3:0--1", 8}, {"net 3::", 6}, {"xath 3", 0}, {"pathz 3", 0}, {"z", 0},
+            {"zath 3", 0}, {"net 3:0-0,1-2", 8}, {"net 3:0-9,1-9", 8}, {"net 3:9-0,1-9", 6}, {"net 3:0*1,1-9", 7},
+            {"net 3:0,1-9", 7}, {"net 3:0-1,0-1,9", 12}, {"net 3:0-,9", 8}, {"path 9 9", 5}, {"grid 9*9", 5}};
+        CleanNets used = new CleanNets();
         for (Object[] f : faults) {
             CHECK.due("'" + f[0] + "'", Check.read(new CleanNets(), (String) f[0]), -20 - (Integer) f[1]);
+            CHECK.due("behind a longer text", Check.read(used, "net 5:3-4,0-1,2-3,1-2,4-0"), 5);
+            CHECK.due("then '" + f[0] + "'", Check.read(used, (String) f[0]), -20 - (Integer) f[1]);
+            CHECK.due("undone", used.undo() >= 0 ? 1 : 0, 1);
         }
+        CHECK.due("a 2 that is no more", Check.read(used, "net 2"), 0);
+        CHECK.due("then without it", Check.read(used, "net "), -24);
+        CHECK.due("a sign that is no more", Check.read(used, "net 2:0-1"), 1);
+        CHECK.due("then without it", Check.read(used, "net 2"), 0);
+        CHECK.due("then without its end", Check.read(used, "net 2:0"), -27);
+        CHECK.due("a grid", Check.read(used, "grid 2*2"), 4);
+        CHECK.due("then without its height", Check.read(used, "grid 2*"), -27);
+        CHECK.due("then without its star", Check.read(used, "grid 2"), -26);
+        CHECK.due("blanks that are no more", Check.read(used, "path 3     "), 2);
     }
 
     private static void readKeeps() {
@@ -186,6 +205,7 @@ public final class DoneTest {
         CHECK.due("cut", x.node(3, 1) & 16, 0);
         CHECK.due("six known", x.count(7), 6);
         CHECK.due("forty", x.drift(40) >= 0 ? 1 : 0, 1);
+        driftsByTheDocument();
         CleanNets two = new CleanNets();
         int turns = 0;
         for (int k = 0; k < 5; k++) {
@@ -206,6 +226,26 @@ public final class DoneTest {
         }
         CHECK.due("a link by drift", foul.count(1), 1);
         CHECK.due("lets the foul in", foul.count(3), 0);
+    }
+
+    private static void driftsByTheDocument() {
+        for (int n = 2; n <= 7; n++) {
+            CleanNets x = Check.made("net " + n);
+            x.seed(n * 1000003);
+            long draw = n * 1000003;
+            boolean[][] linked = new boolean[n][n];
+            for (int turn = 0; turn < 60; turn++) {
+                draw = (draw * 1103515245L + 12345L) % 2147483648L;
+                int u = (int) (draw / 65536 % n);
+                int v = (int) (draw / 65536 / 8 % n);
+                if (u != v) {
+                    linked[u][v] = !linked[u][v];
+                    linked[v][u] = linked[u][v];
+                }
+                x.drift(1);
+                CHECK.due("turn " + turn + " of " + n, x.node(u, 1) >> v & 1, linked[u][v] ? 1 : 0);
+            }
+        }
     }
 
     private static void undone() {
@@ -247,6 +287,23 @@ public final class DoneTest {
         }
         CHECK.due("the oldest is lost", x.count(6), 3);
         CHECK.due("none", x.undo(), CleanNets.NONE);
+        undoneManyTimes();
+    }
+
+    /** Teams told in turn, more and more of them, then back through the six that are known. */
+    private static void undoneManyTimes() {
+        for (int told = 1; told < 30; told++) {
+            CleanNets x = new CleanNets();
+            for (int k = 1; k <= told; k++) {
+                x.tell(1, (k + 1) % 7 + 1);
+            }
+            int known = Math.min(told, 6);
+            for (int back = 1; back <= known; back++) {
+                CHECK.due("back " + back, x.undo(), known - back);
+                CHECK.due("team " + back + " of " + told, x.count(6), (told - back + 1) % 7 + 1);
+            }
+            CHECK.due("none", x.undo(), CleanNets.NONE);
+        }
     }
 
     private static void seeds() {
@@ -294,6 +351,10 @@ public final class DoneTest {
         CHECK.due("again", x.restore(), 1);
         CHECK.due("again", x.count(7), 3);
         CHECK.due("draw again", x.seed(18), 17);
+        for (int left = 2; left >= 0; left--) {
+            CHECK.due("undone once more", x.undo(), left);
+        }
+        CHECK.due("the first state", x.count(0), 2);
         x.tell(0, 1);
         x.image();
         x.tell(0, 2);

@@ -7,6 +7,8 @@ public final class PlanTest {
         fewest();
         plans();
         plansAreDone();
+        plansOfChangedNets();
+        plansInTurn();
         rests();
         odds();
         badNumbers();
@@ -101,6 +103,62 @@ public final class PlanTest {
         CHECK.due(plan + ": no more", x.plan(kind, steady, acts), CleanNets.NONE);
     }
 
+    /** What was found for a net does not answer for another one, however it came. */
+    private static void plansOfChangedNets() {
+        CleanNets x = Check.made("path 4");
+        CHECK.due("path", x.fewest(0, 2, 0), 6);
+        CHECK.due("path, last act", x.plan(0, 0, 5), 3);
+        x.link(0, 3, 1);
+        CHECK.due("a ring, plan first", x.plan(0, 0, 5), CleanNets.NONE);
+        CHECK.due("a ring", x.plan(0, 0, 4), 3);
+        CHECK.due("a ring", x.fewest(0, 2, 0), CleanNets.NONE);
+        x.undo();
+        CHECK.due("a path again", x.fewest(0, 2, 0), 6);
+        CHECK.due("a path again", x.plan(0, 0, 5), 3);
+        x.image();
+        Check.read(x, "star 4");
+        CHECK.due("a star", x.plan(0, 0, 1), 1);
+        CHECK.due("a star", x.plan(0, 0, 2), 11);
+        x.restore();
+        CHECK.due("a path by an image", x.plan(0, 0, 2), 10);
+        Check.read(x, "net 4:0-1,1-2,1-3");
+        CHECK.due("other links, as many nodes", x.fewest(1, 1, 0), CleanNets.NONE);
+        Check.read(x, "net 4:0-1,1-2,2-3");
+        CHECK.due("other links, as many nodes", x.fewest(1, 1, 0), 4);
+        Check.read(x, "net 5:0-1,1-2,2-3");
+        CHECK.due("a node more", x.fewest(1, 1, 0), CleanNets.NONE);
+        Check.read(x, "net 3:1-2");
+        CHECK.due("home alone", x.team(2, 0), CleanNets.NONE);
+        Check.read(x, "net 3:0-1,1-2");
+        CHECK.due("home linked", x.team(2, 0), 2);
+    }
+
+    /** Plans asked for in turn, as if each were the only one. */
+    private static void plansInTurn() {
+        CleanNets x = Check.made("ring 5");
+        int acts = 12;
+        int[][] alone = new int[6][acts];
+        for (int which = 0; which < 6; which++) {
+            CleanNets other = Check.made("ring 5");
+            for (int k = 0; k < acts; k++) {
+                alone[which][k] = other.plan(which / 2, which % 2, k);
+            }
+        }
+        x.tell(1, 5);
+        for (int k = 0; k < acts; k++) {
+            for (int which = 0; which < 6; which++) {
+                CHECK.due("plan " + which + ", " + k, x.plan(which / 2, which % 2, k), alone[which][k]);
+                CHECK.due("rest by five", x.rest(0), 5);
+                CHECK.due("plan " + which + " behind a rest", x.plan(which / 2, which % 2, k), alone[which][k]);
+                x.fewest(which / 2, 7, which % 2);
+                CHECK.due("plan " + which + " behind another", x.plan(which / 2, which % 2, k), alone[which][k]);
+            }
+        }
+        CHECK.due("first act by cloning", alone[4][0], 0);
+        CHECK.due("second act by cloning", alone[4][1], 1);
+        CHECK.due("first act by walking", alone[2][0], 0);
+    }
+
     private static void rests() {
         CleanNets x = Check.made("path 4");
         CHECK.due("free, two", x.rest(0), 6);
@@ -123,6 +181,13 @@ public final class PlanTest {
         CHECK.due("it can't be", star.rest(0), CleanNets.NONE);
         CHECK.due("no first one", star.rest(1), CleanNets.NONE);
         CHECK.due("a plan behind a rest", star.plan(0, 1, 0), 0);
+        CleanNets lone = Check.made("path 3");
+        lone.act(1);
+        CHECK.due("its first act alone asked for", lone.rest(1), 0);
+        CHECK.due("a plan's last act", lone.plan(1, 0, 2), 112);
+        CHECK.due("asked again", lone.rest(1), 0);
+        lone.act(0);
+        CHECK.due("guards are full: one must go", lone.rest(1), 10);
         CHECK.due("rest isn't undone", star.count(7), 2);
     }
 
@@ -156,6 +221,19 @@ public final class PlanTest {
         CHECK.due("all six must hold", seven.lost(1, 0), 531441);
         CHECK.due("six, below", seven.lost(1, 1), 1000000);
         CHECK.due("nothing is done by it", seven.count(4), 63);
+        CleanNets back = Check.made("net 3");
+        back.act(0);
+        back.link(0, 1, 1);
+        CHECK.due("linked", back.lost(3, 0), 7);
+        back.undo();
+        CHECK.due("by the net as it is, undone", back.lost(3, 0), 1);
+        CleanNets anew = Check.made("all 3");
+        anew.act(0);
+        anew.image();
+        Check.read(anew, "net 3");
+        anew.count(2);
+        anew.restore();
+        CHECK.due("by the net as it is, restored", anew.lost(3, 0), 7);
     }
 
     private static void badNumbers() {
