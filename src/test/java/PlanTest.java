@@ -133,30 +133,37 @@ public final class PlanTest {
         CHECK.due("home linked", x.team(2, 0), 2);
     }
 
-    /** Plans asked for in turn, as if each were the only one. */
     private static void plansInTurn() {
-        CleanNets x = Check.made("ring 5");
-        int acts = 12;
+        plansInTurn("ring 5", 5);
+        plansInTurn("net 5:0-1,0-2,2-3,1-4", 5);
+        plansInTurn("net 7:0-1,0-2,1-3,1-4,2-5,2-6", 7);
+        CleanNets x = Check.made("net 5:0-1,0-2,2-3,1-4");
+        CHECK.due("turning back helps a team of two", x.team(2, 0), 2);
+        CHECK.due("without it three are needed", x.team(2, 1), 3);
+    }
+
+    /** Plans asked for in turn, as if each were the only one. */
+    private static void plansInTurn(String text, int team) {
+        CleanNets x = Check.made(text);
+        int acts = 14;
         int[][] alone = new int[6][acts];
         for (int which = 0; which < 6; which++) {
-            CleanNets other = Check.made("ring 5");
+            CleanNets other = Check.made(text);
             for (int k = 0; k < acts; k++) {
                 alone[which][k] = other.plan(which / 2, which % 2, k);
             }
         }
-        x.tell(1, 5);
+        x.tell(1, team);
+        int rest = x.fewest(0, team, 0);
         for (int k = 0; k < acts; k++) {
             for (int which = 0; which < 6; which++) {
                 CHECK.due("plan " + which + ", " + k, x.plan(which / 2, which % 2, k), alone[which][k]);
-                CHECK.due("rest by five", x.rest(0), 5);
+                CHECK.due("rest", x.rest(0), rest);
                 CHECK.due("plan " + which + " behind a rest", x.plan(which / 2, which % 2, k), alone[which][k]);
                 x.fewest(which / 2, 7, which % 2);
                 CHECK.due("plan " + which + " behind another", x.plan(which / 2, which % 2, k), alone[which][k]);
             }
         }
-        CHECK.due("first act by cloning", alone[4][0], 0);
-        CHECK.due("second act by cloning", alone[4][1], 1);
-        CHECK.due("first act by walking", alone[2][0], 0);
     }
 
     private static void rests() {
