@@ -50,7 +50,7 @@ public final class CleanNets {
         switch (what) {
             case 0: return now.look(v);
             case 1: return now.near[v];
-            case 2: return currentNet().leastOfPart(v);
+            case 2: return currentNet().partOf(v);
             default: return BAD;
         }
     }
@@ -571,7 +571,26 @@ public final class CleanNets {
             return left;
         }
 
-        int leastOfPart(int v) {
+        int partOf(int v) {
+            return partsBelow(leastOfPart(v));
+        }
+
+        int parts() {
+            return partsBelow(nodes);
+        }
+
+        /** How many parts have their least node below this one: so parts are numbered without a gap. */
+        private int partsBelow(int end) {
+            int parts = 0;
+            for (int v = 0; v < end; v++) {
+                if (leastOfPart(v) == v) {
+                    parts++;
+                }
+            }
+            return parts;
+        }
+
+        private int leastOfPart(int v) {
             int part = 1 << v;
             for (int turn = 0; turn < MOST_NODES; turn++) {
                 part |= beside[part & all];
@@ -581,16 +600,6 @@ public final class CleanNets {
                 least++;
             }
             return least;
-        }
-
-        int parts() {
-            int parts = 0;
-            for (int v = 0; v < nodes; v++) {
-                if (leastOfPart(v) == v) {
-                    parts++;
-                }
-            }
-            return parts;
         }
 
         boolean isAct(long number) {

@@ -5,6 +5,8 @@ public final class NetTest {
     public static void main(String[] args) {
         newObject();
         nodes();
+        partsFollowLinks();
+        partsOfEveryNet();
         counts();
         badNumbers();
         wouldFree();
@@ -36,7 +38,7 @@ public final class NetTest {
     private static void nodes() {
         CleanNets x = Check.made("net 7:1-3,3-5,2-6");
         int[] near = {0, 8, 64, 34, 0, 8, 4};
-        int[] parts = {0, 1, 2, 1, 4, 1, 2};
+        int[] parts = {0, 1, 2, 1, 3, 1, 2};
         for (int v = 0; v < 7; v++) {
             CHECK.due("near " + v, x.node(v, 1), near[v]);
             CHECK.due("part of " + v, x.node(v, 2), parts[v]);
@@ -49,6 +51,72 @@ public final class NetTest {
         CHECK.due("foul", x.node(1, 0), 0);
         CleanNets far = Check.made("net 6:0-5,5-1,1-4,4-2,2-3");
         CHECK.due("a part that winds", far.node(3, 2), 0);
+    }
+
+    private static void partsFollowLinks() {
+        CleanNets x = Check.made("net 3");
+        CHECK.due("each alone", x.node(2, 2), 2);
+        x.link(0, 1, 1);
+        CHECK.due("two together, one alone", x.node(2, 2), 1);
+        CHECK.due("the greater one of two", x.node(1, 2), 0);
+        x.link(0, 1, 0);
+        CHECK.due("alone again", x.node(2, 2), 2);
+        x.undo();
+        CHECK.due("together again", x.node(2, 2), 1);
+        x.link(0, 2, 1);
+        CHECK.due("all together", x.node(2, 2), 0);
+        CleanNets last = Check.made("net 7:0-6,1-5");
+        int[] parts = {0, 1, 2, 3, 4, 1, 0};
+        for (int v = 0; v < 7; v++) {
+            CHECK.due("part of " + v + ", the last ones linked to the first ones", last.node(v, 2), parts[v]);
+        }
+        CHECK.due("no part of a node that isn't there", x.node(3, 2), CleanNets.BAD);
+        CHECK.due("no part of a node below 0", x.node(-1, 2), CleanNets.BAD);
+    }
+
+    /** Every net of up to 6 nodes, and of 7 nodes one of each 61 (a prime, so that all links take turns). */
+    private static void partsOfEveryNet() {
+        for (int n = 2; n <= 7; n++) {
+            int nets = 1 << n * (n - 1) / 2;
+            for (int links = 0; links < nets; links += n == 7 ? 61 : 1) {
+                partsOfNet(n, links);
+            }
+        }
+    }
+
+    /** Nodes are gone through from 0 on: one that hangs together with none ahead of it begins the next part. */
+    private static void partsOfNet(int n, int links) {
+        StringBuilder text = new StringBuilder("net" + n);
+        boolean[][] together = new boolean[n][n];
+        int bit = 0;
+        for (int v = 1; v < n; v++) {
+            for (int u = 0; u < v; u++) {
+                if ((links >> bit++ & 1) != 0) {
+                    text.append(text.length() == 4 ? ':' : ',').append(u).append('-').append(v);
+                    together[u][v] = true;
+                    together[v][u] = true;
+                }
+            }
+        }
+        for (int by = 0; by < n; by++) {
+            for (int u = 0; u < n; u++) {
+                for (int v = 0; v < n; v++) {
+                    together[u][v] |= together[u][by] && together[by][v];
+                }
+            }
+        }
+        CleanNets x = Check.made(text.toString());
+        int[] due = new int[n];
+        int parts = 0;
+        for (int v = 0; v < n; v++) {
+            int ahead = 0;
+            while (ahead < v && !together[ahead][v]) {
+                ahead++;
+            }
+            due[v] = ahead < v ? due[ahead] : parts++;
+            CHECK.due(text + ": part of " + v, x.node(v, 2), due[v]);
+        }
+        CHECK.due(text + ": parts", x.count(2), parts);
     }
 
     private static void counts() {

@@ -5,6 +5,7 @@ import java.util.HashMap;
 import java.util.List;
 import java.util.Map;
 import java.util.TreeMap;
+import java.util.TreeSet;
 
 /**
  * The document once more, written without regard to speed and by other ways than CleanNets: nodes are letters of a
@@ -139,7 +140,8 @@ final class SlowNets {
         return what == 1 ? set : part(v);
     }
 
-    private int part(int v) {
+    /** Of each node the least node of its part. */
+    private int[] labels() {
         int[] label = new int[size(all)];
         for (int u = 0; u < label.length; u++) {
             label[u] = u;
@@ -153,7 +155,13 @@ final class SlowNets {
                 }
             }
         }
-        return label[v];
+        return label;
+    }
+
+    /** A part's number is its place among the parts, put in order by their least nodes. */
+    private int part(int v) {
+        int[] label = labels();
+        return new TreeSet<>(Arrays.stream(label).boxed().toList()).headSet(label[v]).size();
     }
 
     private int links() {
@@ -169,11 +177,10 @@ final class SlowNets {
     int count(int what) {
         int clean = 0;
         int guarded = 0;
-        int parts = 0;
+        int parts = (int) Arrays.stream(labels()).distinct().count();
         for (int v = 0; v < size(all); v++) {
             clean += all.nodes.charAt(v) != 'f' ? 1 << v : 0;
             guarded += all.nodes.charAt(v) == 'g' ? 1 << v : 0;
-            parts += part(v) == v ? 1 : 0;
         }
         int[] answers = {size(all), links(), parts, clean, guarded, all.kind, all.team, past.size()};
         return what < 0 || what >= answers.length ? BAD : answers[what];
