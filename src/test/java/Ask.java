@@ -1,0 +1,4 @@
+/** One call, and what it answered. */
+interface Ask {
+    int of(CleanNets x);
+}
